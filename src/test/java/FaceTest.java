@@ -137,7 +137,8 @@ public final class FaceTest {
     private static void wordsAreAllowed(String source) {
         String code = source.replaceAll("(?s)/\\*.*?\\*/", "").replaceAll("//.*", "").replaceAll("\"[^\"]*\"", "\"\"");
         String[] forbidden = {
-            "->", "::", "\\bfinally\\b", "\\bcatch\\b", "\\bsynchronized\\b", "\\bassert\\b", "Exact\\b", "\\bstatic \\{",
+            "->", "::", "\\bfinally\\b", "\\bcatch\\b", "\\bsynchronized\\b", "\\bassert\\b", "Exact\\b",
+            "\\bstatic \\{",
             "\\bString\\.", "\\bSystem\\.(?!arraycopy)", "\\bprotected\\b", "\\bpackage\\b", "\\bequals\\b",
             "\\bhashCode\\b", "\\btoString\\b", "\\bwhile\\b", "import (?!java\\.util\\.NoSuchElementException;)",
         };

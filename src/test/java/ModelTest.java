@@ -57,7 +57,8 @@ public final class ModelTest {
         return methods;
     }
 
-    private static String answer(Map<String, Method> methods, Object target, String name, Object[] args) throws Exception {
+    private static String answer(Map<String, Method> methods, Object target, String name, Object[] args)
+            throws Exception {
         try {
             return String.valueOf(methods.get(name).invoke(target, args));
         } catch (InvocationTargetException e) {
@@ -161,7 +162,7 @@ public final class ModelTest {
             switch (kind) {
                 case 'g': return random.nextInt(25) == 0 ? 2 : random.nextInt(2);
                 case 'l': return random.nextInt(25) == 0 ? 8 : random.nextInt(8);
-                case 's': return random.nextInt(3) == 0 ? random.nextInt(11) : random.nextInt(model.now.stairs.size() + 1);
+                case 's': return random.nextInt(random.nextInt(3) == 0 ? 11 : model.now.stairs.size() + 1);
                 case 't': return random.nextInt(4) == 0 ? random.nextInt(43) : 1 + random.nextInt(12);
                 case 'd': return random.nextInt(11);
                 case 'f': return random.nextInt(43) - 1;
@@ -216,8 +217,8 @@ public final class ModelTest {
 
     /** The document, told once more, with the library and without a thought of what it makes. */
     public static final class Model {
-        private static final String ORDER = "(build [0-9][0-9] [0-9][0-9]?|tear [0-9]|halve [0-9]|lease [0-9] [0-9] [0-9]"
-            + "|climb [0-9] [0-9]|levy [0-9] [0-9]|take [0-9]|free [0-9] [0-9]|day)";
+        private static final String ORDER = "(build [0-9][0-9] [0-9][0-9]?|tear [0-9]|halve [0-9]"
+            + "|lease [0-9] [0-9] [0-9]|climb [0-9] [0-9]|levy [0-9] [0-9]|take [0-9]|free [0-9] [0-9]|day)";
         private static final Pattern TEXT = Pattern.compile(ORDER + "(;" + ORDER + ")*");
 
         State now = new State();

@@ -61,6 +61,7 @@ public final class PromisesTest {
     private static void promises16To21() {
         steps();
         way();
+        longestWay();
         first();
         reach();
     }
@@ -91,6 +92,7 @@ public final class PromisesTest {
         tellLandings();
         character();
         account();
+        accountOfBoth();
         meanSteps();
         leasedShare();
     }
@@ -603,6 +605,29 @@ public final class PromisesTest {
         thrown(() -> x.wayAgain(0, -1), INDEX);
     }
 
+    /** The way over all landings, whose last staircase has the lowest number. */
+    private static void longestWay() {
+        GiantStairs x = new GiantStairs();
+        int[] chain = {1, 7, 6, 5, 4, 3, 2, 0};
+        for (int stair = 0; stair < 7; stair++) {
+            x.build(chain[stair], chain[stair + 1], stair + 1);
+        }
+        promise = "8";
+        for (int landing = 2; landing < 8; landing++) {
+            same(x.take(landing), 35 - 5 * landing);
+        }
+        ways(x, new int[] {0, 56, 14, 26, 36, 44, 50, 54});
+        promise = "16";
+        same(x.steps(0, 1), 28);
+        promise = "17";
+        same(x.stepsAgain(1, 0), 28);
+        promise = "20";
+        same(x.first(0, 1), 6);
+        same(x.first(1, 0), 0);
+        promise = "31";
+        same(x.isTold(), true);
+    }
+
     private static void ways(GiantStairs x, int[] due) {
         for (int landing = 0; landing < 8; landing++) {
             int goal = landing;
@@ -887,6 +912,18 @@ public final class PromisesTest {
         same(x.stairOf(0, 3), 0);
         same(x.account(7), 2);
         same(x.landingOf(0, 0), 2);
+        type(x, "build 14 5;build 13 20;day;take 4;tear 0;lease 0 1 5;day");
+        same(x.run(), 7);
+        same(x.stairOf(0, 2), 5);
+        same(x.stairOf(1, 2), 20);
+        same(x.stairOf(1, 5), 0);
+        same(x.stairOf(1, 6), 4);
+        same(x.landingOf(4, 0), 1);
+        type(x, "levy 1 1;climb 1 0;free 1 1");
+        same(x.run(), 3);
+        same(x.stairOf(1, 3), 0);
+        same(x.giantOf(1, 1), 4);
+        same(x.landingOf(1, 0), 2);
     }
 
     private static void runAllOrNone() {
@@ -1085,6 +1122,27 @@ public final class PromisesTest {
         }
         thrown(() -> x.account(14), ARGUMENT);
         thrown(() -> x.account(-1), ARGUMENT);
+    }
+
+    private static void accountOfBoth() {
+        promise = "40";
+        GiantStairs x = new GiantStairs();
+        x.build(0, 1, 8);
+        x.build(0, 2, 16);
+        x.build(0, 3, 24);
+        x.lease(1, 0, 1);
+        x.lease(0, 1, 2);
+        x.lease(1, 2, 3);
+        same(x.account(4), 3);
+        x.day();
+        same(x.account(4), 2);
+        same(x.account(6), 9);
+        x.climb(0, 0);
+        x.climb(1, 0);
+        x.climb(1, 0);
+        x.climb(1, 0);
+        same(x.account(8), 3);
+        same(x.account(9), 64);
     }
 
     private static void meanSteps() {
