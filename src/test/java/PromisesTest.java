@@ -273,6 +273,14 @@ public final class PromisesTest {
         same(poor.giantOf(0, 0), 0);
         same(poor.giantOf(1, 0), 30);
         same(poor.giantOf(1, 6), 0);
+        poor.climb(1, 0);
+        same(poor.giantOf(0, 0), 1);
+        poor.climb(0, 0);
+        poor.climb(0, 0);
+        same(poor.giantOf(0, 0), 0);
+        same(poor.giantOf(1, 6), 1);
+        poor.undo();
+        same(poor.giantOf(1, 6), 0);
     }
 
     /** The giant 0 has given all coins as rents of the staircase 0 between the landings 0 and 1. */
@@ -765,6 +773,9 @@ public final class PromisesTest {
         same(x.bestLevy(1), 3);
         x.levy(0, 2);
         same(x.bestLevy(0), 3);
+        GiantStairs poor = withoutCoins();
+        same(poor.bestLevy(0), 0);
+        thrown(() -> poor.bestLevy(1), MISSING);
         thrown(() -> x.bestLevy(2), INDEX);
         thrown(() -> x.bestLevy(-1), INDEX);
     }
@@ -800,6 +811,8 @@ public final class PromisesTest {
         same(poor.canTake(2), false);
         promise = "28";
         same(poor.takable(), 0);
+        x.climb(0, 0);
+        same(x.takable(), 1 | 1 << 7);
     }
 
     private static void turn() {
@@ -983,6 +996,8 @@ public final class PromisesTest {
         fault(x, " day", 0);
         fault(x, ";", 0);
         fault(x, "x", 0);
+        fault(x, "dx", 1);
+        fault(x, "l", 1);
         fault(x, "da", 2);
         fault(x, "dax", 2);
         fault(x, "day ", 3);
