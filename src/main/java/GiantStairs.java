@@ -880,15 +880,16 @@ public final class GiantStairs {
             return NOT_REFUSED;
         }
 
-        int levyToCome(int giant, int stair) {
-            if (whyNotLevy(giant, stair) != NOT_REFUSED) {
-                return 0;
-            }
+        private int coinsForDust(int giant, int stair) {
             return Math.min(stairs[stair].dust / DUST_FOR_A_COIN, giants[1 - giant].coins);
         }
 
+        int levyToCome(int giant, int stair) {
+            return whyNotLevy(giant, stair) == NOT_REFUSED ? coinsForDust(giant, stair) : 0;
+        }
+
         int levyDust(int giant, int stair) {
-            int given = levyToCome(giant, stair);
+            int given = coinsForDust(giant, stair);
             giants[1 - giant].coins -= given;
             giants[giant].coins += given;
             coinsLevied += given;
